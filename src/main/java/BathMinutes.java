@@ -1,4 +1,3 @@
-import java.util.Arrays;
 import java.util.NoSuchElementException;
 
 /** A darkroom by the minute. What each call answers is promised, by number, in DOC.md. */
@@ -865,8 +864,9 @@ public final class BathMinutes {
         }
 
         void begin() {
-            Arrays.fill(cells, 0);
-            Arrays.fill(cells, WHERE, WHERE + MOST_SHEETS, NONE);
+            for (int i = 0; i < CELLS; i++) {
+                cells[i] = i >= WHERE && i < LEFT ? NONE : 0;
+            }
             cells[FRESH] = room.fresh;
         }
 
