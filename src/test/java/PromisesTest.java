@@ -92,6 +92,10 @@ public final class PromisesTest {
         c.due("end of what is gone", x.end(12), false);
         c.due("count(6)", x.count(6), 11);
         c.due("room", x.room(), 1);
+        x.feed(0x62617468, 0x20612031, 0x20313b00, -1, 7);
+        c.due("end of none", x.end(0), true);
+        c.due("none", x.count(6), 0);
+        c.due("end of none of none", x.end(0), true);
         c.due("empty then", x.count(6), 0);
         for (int i = 1; i <= 47; i++) {
             c.due("feed " + i, x.feed(0, 0, 0, 0, 0), 20 * i);
@@ -136,6 +140,12 @@ public final class PromisesTest {
         c.due("nothing to undo", x.undo(), NONE);
         c.due("'spare'", x.count(3), 3);
         c.due("no BATHS", x.count(0), 0);
+        c.due("told as 0", Check.room(x, "spare 0; weak 0; fresh 0;"), 3);
+        c.due("none can be made fresh", x.now(7), 0);
+        c.due("told as most", Check.room(x, "weak 9; fresh 99; spare 9;"), 3);
+        c.due("'spare'", x.count(3), 9);
+        c.due("'weak'", x.count(4), 9);
+        c.due("'fresh'", x.count(5), 99);
         c.due("a PAPER without BATHS", Check.room(x, "paper p;sheet s p;"), 2);
         c.due("it is DONE", x.start(0), 0);
         c.due("it is DONE", x.now(3), 1);
@@ -232,6 +242,8 @@ public final class PromisesTest {
         fault(blanks(899) + "foo;", 899, 1);
         fault(blanks(900) + "foo;", 900, 1);
         fault(blanks(892) + "spare 1;foo", 900, 1);
+        fault(blanks(894) + "spare 12;", 900, 1);
+        fault(blanks(893) + "bath a 1 1;", 900, 1);
         fault("spare 1;.", 8, 1);
         fault("." + blanks(920), 0, 1);
         BathMinutes x = Check.with(ROOM);
@@ -635,6 +647,16 @@ public final class PromisesTest {
         x.minutes(10);
         c.due("D is free till then", x.clear(1), 0);
         c.due("too long ahead of S", x.clear(2), 49);
+        // S will be SPOILT in MINUTE 204 from now, with V or without it; V waits for U in F
+        x = Check.with("bath a 1 2; bath b 1 2; bath d 1 2; bath e 1 2; bath f 1 4; bath g 1 1; paper p 30 30 30 30 30 1; "
+            + "paper q 1 1 1 1 1 1; paper r 0 0 0 0 30 0; paper w 0 0 0 0 5 0; "
+            + "sheet s p; sheet t q; sheet u r; sheet v w; weak 9; spare 9;");
+        x.start(1);
+        x.minutes(20);
+        x.start(0);
+        x.start(2);
+        c.due("S is held in 203", x.load(4, 200), 1);
+        c.due("SPOILT in any case by then", x.clear(3), 30);
         // not DONE 200 MINUTES behind
         x = Check.with("bath a 1 9; bath b 1 9; bath d 1 9; bath e 1 9; bath f 1 9; bath g 1 9; "
             + "paper p 30 30 30 30 30 30; paper q 30 30 30 30 30 29; sheet s p; sheet t q; weak 4;");
@@ -649,6 +671,7 @@ public final class PromisesTest {
         x.start(1);
         x.minutes(20);
         c.due("200 MINUTES", x.clear(0), 0);
+        c.due("an ORDER of 200 MINUTES", order(x, 0), 200);
     }
 
     private static int order(BathMinutes x, int... sheets) {
@@ -771,6 +794,7 @@ public final class PromisesTest {
         c.due("the same twice", who(x, 0, 3, 0, 3), 0b10111);
         c.due("0 minutes", who(x, 2, 0), 0b01000);
         c.due("one", x.ask(), 0);
+        c.due("SHEET 0 alone", who(Check.with("bath a 1 9; paper p 3; sheet s p;"), 0, 3), 1);
         c.due("a byte above 127", who(x, 0, 131), 0);
         c.due("six", who(x, 0, 3, 1, 1, 2, 4, 0, 3, 1, 1, 2, 4), 0b10001);
         c.due("none", who(x), NONE);
@@ -784,6 +808,11 @@ public final class PromisesTest {
         Check.room(x, "spare 1;");
         c.due("what was told stays", x.ask(), 2);
         c.due("no BATHS", who(x, 0, 0), NONE);
+        x = Check.with("bath a 1 1; bath b 1 1; paper p 3 1; paper q 3 2; sheet s p; sheet t q;");
+        who(x, 0, 3);
+        c.due("by B they differ", x.ask(), 1);
+        c.due("SHEET 0", who(x, 1, 1), 1);
+        c.due("one is left in any case", x.ask(), 0);
         x = Check.with("bath a 1 1; paper p 1;");
         c.due("no SHEETS", who(x, 0, 1), 0);
         c.due("ask", x.ask(), NONE);
@@ -1018,6 +1047,7 @@ public final class PromisesTest {
         liveByCalls(z, 60, 5, 2, 0);
         sameState(y, z, 2, 0);
         c.due("drawn without SHEETS", Check.with("bath a 1 1;").drawn(7, 5), 7);
+        c.due("drawn(1)", z.drawn(1, 1), 1);
         c.due("drawn(0)", y.drawn(0, 1), NONE);
         c.due("drawn(61)", y.drawn(61, 1), NONE);
         c.due("undo", y.undo(), 0);
@@ -1043,6 +1073,7 @@ public final class PromisesTest {
         c.due("undo", y.undo(), 1);
         c.due("odds(3)", y.odds(3, 1, 1), NONE);
         c.due("odds(-1)", y.odds(-1, 1, 1), NONE);
+        c.due("odds of 1", Check.with("paper p; sheet s p;").odds(0, 1, 1), 1);
         c.due("odds of 0", y.odds(0, 0, 1), NONE);
         c.due("odds of 31", y.odds(0, 31, 1), NONE);
         // fewer, if MINUTE is 1000 by then: seven MINUTES are too few
