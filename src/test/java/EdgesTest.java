@@ -20,6 +20,7 @@ public final class EdgesTest {
         need();
         asks();
         sheet();
+        nothingOfOthers();
         now();
         start();
         takeAndAgain();
@@ -339,6 +340,40 @@ public final class EdgesTest {
         x.minutes(1);
         row(x, 6, 1, 2, NONE, 0, 0, 0, 1);
         row(x, 0, 1, 3, NONE, 0, 0, 0, 1);
+    }
+
+    /** One SHEET in one BATH, each of each: nothing of another one is touched by what goes on. */
+    private static void nothingOfOthers() {
+        for (int b = 0; b < 6; b++) {
+            StringBuilder t = new StringBuilder();
+            StringBuilder asked = new StringBuilder();
+            for (int i = 0; i < 6; i++) {
+                t.append("bath b").append((char) ('a' + i)).append(" 1 9;");
+                asked.append(i == b ? " 9" : " 0");
+            }
+            for (int s = 0; s < 8; s++) {
+                BathMinutes x = Check.with(t + "paper p" + asked + ";" + EIGHT + "spare 9;");
+                x.start(s);
+                x.minutes(4);
+                for (int other = 0; other < 8; other++) {
+                    if (other == s) {
+                        row(x, s, 0, 1, b, 5, 0, 0, 1);
+                    } else {
+                        row(x, other, 0, 0, NONE, 0, 0, 0, 0);
+                    }
+                }
+                for (int other = 0; other < 6; other++) {
+                    c.due("had", x.bath(other, 2), other == b ? 1 : 0);
+                    c.due("in it", x.bath(other, 3), other == b ? 1 << s : 0);
+                }
+                c.due("in BATHS", x.now(2), 1 << s);
+                c.due("WAITING", x.now(1), 255 & ~(1 << s));
+                c.due("often", x.often(), s);
+                c.due("mean", x.mean(0), 0);
+                c.due("can be made fresh", x.now(7), 5);
+                c.due("MINUTE", x.now(0), 4);
+            }
+        }
     }
 
     private static void now() {
@@ -787,23 +822,25 @@ public final class EdgesTest {
     /** Of all SHEETS together, those that are SPOILT or DONE, too. */
     private static void meanOfAll() {
         BathMinutes x = Check.with("bath a 4 9; bath b 1 1; paper p 1 1; paper q 0 9;" + EIGHT + "spare 9;");
-        x.start(7);
+        x.start(0);
         x.minutes(1);
-        for (int s = 4; s < 7; s++) {
+        for (int s = 5; s < 8; s++) {
             x.start(s);
         }
         x.minutes(1);
         c.due("three by eight", x.mean(0) * 10 + x.mean(1), 38);
         x.minutes(1);
         c.due("six by eight", x.mean(0) * 10 + x.mean(1), 34);
-        x.take(5);
+        x.take(6);
         c.due("SPOILT, too", x.mean(0) * 10 + x.mean(1), 34);
         x.minutes(1);
         c.due("eight by eight", x.mean(0) * 10 + x.mean(1), 11);
-        x.again(5);
+        x.again(6);
         c.due("made AGAIN, too", x.mean(0) * 10 + x.mean(1), 11);
-        x.start(5);
+        c.due("often: OVER no matter", x.often(), 0);
+        x.start(6);
         c.due("not any more: six by eight", x.mean(0) * 10 + x.mean(1), 34);
+        c.due("often", x.often(), 6);
     }
 
     private static void often() {
@@ -853,7 +890,9 @@ public final class EdgesTest {
         c.due("far off", x.byteAt(LEAST), NONE);
         for (int left = 29; left >= 1; left--) {
             x.minutes(1);
-            c.due("tag", Check.tag(x, 1), "sssssss in bbbbbbb " + left);
+            c.due("tag's length", x.tag(1), left > 9 ? 21 : 20);
+            c.due("its last byte", x.byteAt(left > 9 ? 20 : 19), '0' + left % 10);
+            c.due("the one ahead", x.byteAt(left > 9 ? 19 : 18), left > 9 ? '0' + left / 10 : ' ');
         }
         x.minutes(1);
         c.due("tag", Check.tag(x, 1), "sssssss done");

@@ -4,8 +4,9 @@ import java.util.Random;
 
 /** Random runs of calls, each answered by the program as by the Oracle. The seeds are fixed: each run is the same. */
 public final class OracleTest {
-    private static final int RUNS = Integer.getInteger("runs", 700);
-    private static final int CALLS = 250;
+    private static final int RUNS = Integer.getInteger("runs", 2000);
+    // what is answered behind 512 calls is free; the last turn and the look at the end make some 200
+    private static final int CALLS = 300;
 
     private final Random dice;
     private final Check check;
@@ -13,6 +14,7 @@ public final class OracleTest {
     private final Oracle o = new Oracle();
     private final String run;
     private String lastText = "";
+    private int made;
 
     private OracleTest(int seed, Check check) {
         dice = new Random(seed);
@@ -34,7 +36,7 @@ public final class OracleTest {
     }
 
     private void go() {
-        int calls = 0;
+        int turn = 0;
         if (roll(10) > 0) {
             text(roomText());
             same("room()", x.room(), o.room());
@@ -44,9 +46,9 @@ public final class OracleTest {
                 same("sentence()", x.sentence(), o.sentence());
             }
         }
-        while (calls < CALLS) {
-            call(calls);
-            calls++;
+        while (made < CALLS) {
+            call(turn);
+            turn++;
         }
         for (int what = -1; what < 9; what++) {
             same("now", x.now(what), o.now(what));
@@ -67,6 +69,7 @@ public final class OracleTest {
     }
 
     private void same(String call, long got, long want) {
+        made++;
         check.due(run + call + (got == want ? "" : " [" + lastText + "]"), got, want);
     }
 
@@ -91,6 +94,7 @@ public final class OracleTest {
             all[i] = bytes[i];
         }
         Check.bytes(x, all);
+        made += 3 + all.length / 20;
         o.tape = bytes.clone();
     }
 

@@ -427,8 +427,9 @@ public final class PlansEdgesTest {
     }
 
     private static void whoBytes() {
-        BathMinutes x = Check.with(SIX + "paper p 1 2 3 4 5 6; paper q 1 2 3 4 5 30; paper r 1 0 3 4 5 6; "
-            + "sheet s p; sheet t q; sheet u r; sheet v p; sheet w p; sheet y p; sheet z q; sheet aa r;");
+        String room = SIX + "paper p 1 2 3 4 5 6; paper q 1 2 3 4 5 30; paper r 1 0 3 4 5 6; "
+            + "sheet s p; sheet t q; sheet u r; sheet v p; sheet w p; sheet y p; sheet z q; sheet aa r;";
+        BathMinutes x = Check.with(room);
         for (int length = 0; length <= 20; length++) {
             int[] bytes = new int[length];
             for (int i = 0; i < length; i++) {
@@ -441,12 +442,15 @@ public final class PlansEdgesTest {
             c.due("tape", x.count(6), 0);
         }
         for (int b = 0; b < 256; b++) {
+            x = b % 64 == 0 ? Check.with(room) : x;
             c.due("BATH " + b, who(x, b, 1), b == 0 ? 255 : b < 6 ? 0 : NONE);
         }
         for (int asked = 0; asked < 256; asked++) {
             int due = asked == 6 ? 0b10111101 : asked == 30 ? 0b01000010 : 0;
+            x = asked % 64 == 0 ? Check.with(room) : x;
             c.due("minutes " + asked, who(x, 5, asked), due);
         }
+        x = Check.with(room);
         c.due("0 minutes", who(x, 1, 0), 0b10000100);
         c.due("the second pair's BATH", who(x, 0, 1, 6, 1), NONE);
         c.due("no such BATH behind nobody", who(x, 0, 9, 6, 1), NONE);
@@ -478,6 +482,10 @@ public final class PlansEdgesTest {
         c.due("one: the first BATH", x.ask(), 0);
         c.due("v, w", who(x, 1, 3), 12);
         c.due("A or D: the first", x.ask(), 0);
+        who(x, 1, 2);
+        c.due("D", x.ask(), 2);
+        c.due("SHEET 0 alone", who(x, 2, 3), 1);
+        c.due("above 0, too", x.ask(), 0);
         // of a set that is scattered
         BathMinutes y = Check.with("bath a 1 9; bath b 1 9; bath d 1 9; paper p 1 1 1; paper q 1 2 1; paper r 2 2 2; paper t 1 3 2;"
             + "sheet s r; sheet u p; sheet v r; sheet w q; sheet y r; sheet z t; sheet k r; sheet m p;");
@@ -502,6 +510,11 @@ public final class PlansEdgesTest {
         x = Check.with("bath a 1 9; paper p 1; sheet s p; sheet t p;");
         who(x, 0, 1);
         c.due("one BATH", x.ask(), 0);
+        // all of eight may be left in each case
+        x = Check.with(SIX + "paper p 1 2 3 4 5 6; paper q 1 2 3 4 5 6;"
+            + "sheet s p; sheet t q; sheet u p; sheet v q; sheet w p; sheet y q; sheet z p; sheet k q;");
+        c.due("all", who(x, 5, 6), 255);
+        c.due("eight by each BATH: the first", x.ask(), 0);
     }
 
     private static void near() {

@@ -508,8 +508,8 @@ public final class TextEdgesTest {
     }
 
     private static void booksOfLines() {
-        BathMinutes x = Check.with(ROOM);
         for (int n = 0; n <= 40; n++) {
+            BathMinutes x = Check.with(ROOM);
             c.due(n + " LINES", Check.book(x, times("minute 1;", n), 0), NONE);
             c.due(n + " LINES", x.told(1), n);
             c.due("MINUTE", x.told(2), n);
