@@ -799,6 +799,9 @@ public final class EdgesTest {
     }
 
     private static void mean() {
+        BathMinutes none = Check.with("bath a 1 9; paper p 1;");
+        c.dueThrows("mean(0) without SHEETS", () -> none.mean(0));
+        c.dueThrows("mean(1) without SHEETS", () -> none.mean(1));
         for (int sheets = 1; sheets <= 7; sheets++) {
             StringBuilder more = new StringBuilder();
             for (int s = 1; s < sheets; s++) {

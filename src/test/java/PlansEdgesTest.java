@@ -22,6 +22,7 @@ public final class PlansEdgesTest {
         orderOfEachRow();
         orderStarts();
         orderStays();
+        orderAgain();
         jam();
         whoBytes();
         ask();
@@ -397,6 +398,33 @@ public final class PlansEdgesTest {
         row(x, new int[] {1}, new int[] {0});
     }
 
+    /** What an order() left behind is nothing to the next one: each row behind each other one. */
+    private static void orderAgain() {
+        int[][] tapes = {{0, 1, 2}, {2, 1, 0}, {1, 2}, {0}, {1, 0, 2}, {0, 1}, {2}, {1, 1}, {0, 2, 0}, {7}, {0, 2}, {1}, {}};
+        BathMinutes x = Check.with("bath a 1 9; paper p 7; paper q 3; sheet s p; sheet t q; sheet u p;");
+        for (int[] ahead : tapes) {
+            for (int[] behind : tapes) {
+                BathMinutes y = Check.with("bath a 1 9; paper p 7; paper q 3; sheet s p; sheet t q; sheet u p;");
+                int due = order(y, behind);
+                BathMinutes z = Check.with("bath a 1 9; paper p 7; paper q 3; sheet s p; sheet t q; sheet u p;");
+                order(z, ahead);
+                c.due("order", order(z, behind), due);
+                for (int k = 0; k < 3 && due != NONE; k++) {
+                    c.due("orderAt", z.orderAt(k), y.orderAt(k));
+                    c.due("orderWhen", z.orderWhen(k), y.orderWhen(k));
+                }
+            }
+        }
+        for (int i = 0; i < 3; i++) {
+            c.due("the same again", order(x, 0, 1, 2), 17);
+            row(x, new int[] {0, 1, 2}, new int[] {0, 7, 10});
+            c.due("backwards", order(x, 2, 1, 0), 17);
+            row(x, new int[] {0, 1, 2}, new int[] {0, 7, 10});
+            c.due("of two", order(x, 1, 2), 10);
+            row(x, new int[] {1, 2}, new int[] {0, 3});
+        }
+    }
+
     private static void jam() {
         c.due("no BATHS", new BathMinutes().jam(), NONE);
         c.due("no BATHS", Check.with("paper p; sheet s p;").jam(), NONE);
@@ -515,6 +543,11 @@ public final class PlansEdgesTest {
             + "sheet s p; sheet t q; sheet u p; sheet v q; sheet w p; sheet y q; sheet z p; sheet k q;");
         c.due("all", who(x, 5, 6), 255);
         c.due("eight by each BATH: the first", x.ask(), 0);
+        // A: 3, or 5 by the last five SHEETS; B: 4; D: 8
+        x = Check.with("bath a 1 9; bath b 1 9; bath d 1 9; paper p 1 1 1; paper q 2 1 1; paper r 2 2 1;"
+            + "sheet s p; sheet t p; sheet u p; sheet v q; sheet w r; sheet y r; sheet z r; sheet k r;");
+        c.due("all", who(x, 2, 1), 255);
+        c.due("B", x.ask(), 1);
     }
 
     private static void near() {

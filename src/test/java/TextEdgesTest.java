@@ -231,6 +231,24 @@ public final class TextEdgesTest {
         badBook("minutes 1;", 0, 1);
         badSentence("waitin", 0, 1);
         badSentence("waitings", 0, 1);
+        numbersOfSigns();
+    }
+
+    /** The number of a sign's byte is not that sign, also where it is told in a run that is no TOKEN. */
+    private static void numbersOfSigns() {
+        badRoom("bath a 1 1 59", 11, 1);
+        badRoom("bath a 1 1 0059", 11, 1);
+        badRoom("bath a 1 1 x59", 11, 1);
+        badBook("start ada 0059", 10, 1);
+        badBook("minute 3 x59", 9, 1);
+        badSentence("0040 done)", 0, 1);
+        badSentence("x40 done)", 0, 1);
+        badSentence("(done 0041", 6, 1);
+        badSentence("(done x41", 6, 1);
+        for (int sign = '<'; sign <= '>'; sign++) {
+            badSentence("left 00" + sign + " 3", 5, 1);
+            badSentence("left x" + sign + " 3", 5, 1);
+        }
     }
 
     private static void numbersOfARoom() {
